@@ -203,9 +203,10 @@ public final class ShapeHouse {
     }
 
     public long read(int shape) {
-        long answer = BAD;
-        if (grammar.has(shape)) {
-            answer = sound ? readTape(shape) : NO;
+        long answer = grammar.has(shape) ? NO : BAD;
+        if (sound && grammar.has(shape)) {
+            reader.scan(shape);
+            answer = judge();
         }
         tape.shorten(0);
         return answer;
@@ -248,10 +249,10 @@ public final class ShapeHouse {
         }
     }
 
-    private long readTape(int shape) {
+    /** Answers for what the reader has scanned, and keeps what found() tells of it. */
+    private long judge() {
         anyRead = true;
         lastBytes = tape.length();
-        reader.scan(shape);
         lastFault = reader.fault();
         lastSize = reader.wholeSize();
         if (lastFault != 0) {
@@ -434,15 +435,15 @@ public final class ShapeHouse {
         }
 
         int kind(int shape) {
-            return Rows.at(kinds, shape);
+            return shape >= 0 && shape < SHAPES ? kinds[shape] : 0;
         }
 
         int a(int shape) {
-            return Rows.at(firsts, shape);
+            return shape >= 0 && shape < SHAPES ? firsts[shape] : 0;
         }
 
         int b(int shape) {
-            return Rows.at(seconds, shape);
+            return shape >= 0 && shape < SHAPES ? seconds[shape] : 0;
         }
 
         /** The least SIZE that a CUT leaves. */
@@ -688,7 +689,10 @@ public final class ShapeHouse {
         }
 
         long of(int shape, int size) {
-            return isSize(size) ? Rows.at(counts, shape * SIZES + size) : 0;
+            if (shape < 0 || shape >= SHAPES || size < 0 || size > TOP_SIZE) {
+                return 0;
+            }
+            return counts[shape * SIZES + size];
         }
 
         /** The SHAPE of what stands behind the first THING of a BOTH or a ROW. */
@@ -696,16 +700,18 @@ public final class ShapeHouse {
             return grammar.kind(shape) == BOTH ? grammar.b(shape) : shape;
         }
 
-        /** BOTHS or ROWS of a SIZE whose first THING has the SIZE head. */
-        long led(int shape, int size, int head) {
-            return Sums.times(of(grammar.a(shape), head), of(tail(shape), size - head));
+        /** THINGS of the first SHAPE, of SIZE head, each with one of the tail; SIZE together. */
+        long led(int first, int tail, int size, int head) {
+            return Sums.times(of(first, head), of(tail, size - head));
         }
 
         /** BOTHS or ROWS of a SIZE whose first THING comes ahead of the one told. */
         long ledBelow(int shape, int size, int head, long number) {
-            long sum = Sums.times(number, of(tail(shape), size - head));
+            int first = grammar.a(shape);
+            int tail = tail(shape);
+            long sum = Sums.times(number, of(tail, size - head));
             for (int h = 0; h < head && h <= TOP_SIZE; h++) {
-                sum = Sums.plus(sum, led(shape, size, h));
+                sum = Sums.plus(sum, led(first, tail, size, h));
             }
             return sum;
         }
@@ -898,13 +904,15 @@ public final class ShapeHouse {
 
         /** The first THING of a BOTH or ROW, and the NUMBER of what stands behind it. */
         private void splitLed(int shape, int size, long number) {
+            int first = grammar.a(shape);
+            int tail = tally.tail(shape);
             long left = number;
             int head = 0;
-            while (head < size && left >= tally.led(shape, size, head)) {
-                left -= tally.led(shape, size, head);
+            while (head < size && left >= tally.led(first, tail, size, head)) {
+                left -= tally.led(first, tail, size, head);
                 head++;
             }
-            long tails = tally.of(tally.tail(shape), size - head);
+            long tails = tally.of(tail, size - head);
             headSize = head;
             headNumber = tails > 0 ? left / tails : 0;
             restNumber = tails > 0 ? left % tails : 0;
