@@ -280,6 +280,12 @@ public final class PromisesTest {
             due("of CUT from 0 of ATOM", house(0, 1, 0, 7, 0, 24, kind, 1, 0).ready(), 0);
             due("of itself", house(kind, 0, 0).ready(), 32);
         }
+        ShapeHouse chain = new ShapeHouse();
+        for (int x = 0; x < 15; x++) {
+            chain.shape(7, x + 1, 24);
+        }
+        chain.shape(4, 0, 0);
+        due("by way of all sixteen", chain.ready(), 32 + 15);
         due("2 ahead of 3", house(3, 0, 0, 1, 0, 0, 5, 1, 0).ready(), 34);
         due("the least with 2", house(1, 0, 0, 0, 1, 0, 4, 0, 0, 5, 0, 0).ready(), 34);
     }
