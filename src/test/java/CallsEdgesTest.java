@@ -151,6 +151,31 @@ public final class CallsEdgesTest extends Kit {
         }
     }
 
+    /** Promise 4, "The latest 8 are kept": each with its own SHAPE, KIND and numbers, however many came ahead of them. */
+    private static void undoEightUnlike() {
+        int[][] puts = {{0, 0, 1, 1}, {1, 1, 0, 0}, {2, 2, 3, 4}, {3, 3, 5, 6}, {4, 4, 7, 0}, {0, 5, 8, 0}, {1, 6, 9, 0},
+            {2, 7, 10, 66}, {3, 8, 2, 0}, {4, 0, 3, 12}, {0, 1, 0, 0}, {3, 2, 13, 14}};
+        ShapeHouse x = house(0, 9, 20, 0, 9, 21, 0, 9, 22, 0, 9, 23, 0, 9, 24);
+        int[][] now = {{0, 9, 20}, {0, 9, 21}, {0, 9, 22}, {0, 9, 23}, {0, 9, 24}};
+        int[][] ahead = new int[puts.length][];
+        for (int i = 0; i < puts.length; i++) {
+            int[] p = puts[i];
+            ahead[i] = now[p[0]];
+            now[p[0]] = new int[] {p[1], p[2], p[3]};
+            due("put", x.put(p[0], p[1], p[2], p[3]), 0);
+        }
+        for (int i = puts.length - 1; i >= puts.length - 8; i--) {
+            due("undo", x.undo(), i - puts.length + 8);
+            now[puts[i][0]] = ahead[i];
+            for (int shape = 0; shape < 5; shape++) {
+                for (int what = 0; what <= 2; what++) {
+                    due("shape " + shape + ", " + what, x.about(shape, what), now[shape][what]);
+                }
+            }
+        }
+        due("no more", x.undo(), NO);
+    }
+
     /** Promise 4, "one that is taken back no more.": it is neither kept nor does it bring an older one back. */
     private static void undoTakenBack() {
         ShapeHouse x = house(1, 0, 0);
@@ -298,6 +323,42 @@ public final class CallsEdgesTest extends Kit {
         due("none", x.count(13, 16), 0);
     }
 
+    /** Promise 7, "How many THINGS of a SIZE a SHAPE has": whatever numbers the SHAPES have that it needs. */
+    private static void countInAnyOrder() {
+        // a chain of CUTS to an ATOM, numbered by steps that come by all sixteen
+        for (int step = 1; step < 16; step += 2) {
+            for (int from = 0; from < 16; from++) {
+                ShapeHouse x = new ShapeHouse();
+                int[] next = new int[16];
+                for (int i = 0; i < 15; i++) {
+                    next[(from + i * step) % 16] = (from + (i + 1) * step) % 16;
+                }
+                int last = (from + 15 * step) % 16;
+                for (int i = 0; i < 16; i++) {
+                    x.shape(i == last ? 0 : 7, i == last ? 5 : next[i], i == last ? 3 : 24);
+                }
+                due("ready", x.ready(), 0);
+                for (int i = 0; i < 16; i++) {
+                    due("of SIZE 5", x.count(i, 5), 1);
+                    due("of SIZE 0", x.count(i, 0), 0);
+                }
+            }
+        }
+    }
+
+    /** Promise 7, "How many THINGS of a SIZE a SHAPE has": none of what it was ahead of a change. */
+    private static void countOfOnceEmpty() {
+        ShapeHouse x = readyHouse(1, 0, 0, 1, 0, 0);
+        due("EMPTY", x.count(0, 0), 1);
+        x.put(0, 2, 0, 0);
+        x.put(1, 2, 0, 1);
+        due("ready", x.ready(), 0);
+        for (int size = 0; size <= 24; size++) {
+            due("a pair of itself", x.count(0, size), 0);
+            due("a pair with itself", x.count(1, size), 0);
+        }
+    }
+
     /** Promise 7, "BAD; NO: the grammar is not READY (here and below).": for all five calls, and that none is else. */
     private static void notReady() {
         ShapeHouse x = house(0, 1, 0, 4, 0, 0);
@@ -436,6 +497,10 @@ public final class CallsEdgesTest extends Kit {
         due("none is not FULL", x.thing(11, 1, 0), NONE);
         due("it can be read", x.again(), 300);
         due("its number", x.read(10), 0);
+        due("299 once more", x.thing(9, 0, 0), 299);
+        due("FULL once more", x.thing(14, 0, 0), FULL);
+        due("a short one behind it", x.thing(1, 0, 0), 4);
+        due("OUT", told(x), "(..)");
     }
 
     /** Promise 10, "FULL: it would have more than 300 bytes.": 300 and 301 that end with a ROW, SET or APART. */
@@ -464,6 +529,33 @@ public final class CallsEdgesTest extends Kit {
         due("301", x.thing(14, 8, 0), FULL);
         due("letters at 302", x.thing(15, 16, 0), FULL);
         due("OUT is the one of 300", x.out(299), ')');
+    }
+
+    /** Promise 10, "FULL: it would have more than 300 bytes.": pairs within pairs, 90 deep with 278 bytes, and 318 bytes. */
+    private static void thingFullDeep() {
+        // twelve pairs with EMPTY around each ATOM and its pair: 40 bytes more for each SIZE
+        ShapeHouse x = house(1, 0, 0, 0, 1, 0);
+        for (int i = 2; i < 14; i++) {
+            x.shape(2, i + 1, 0);
+        }
+        x.shape(3, 0, 15);
+        x.shape(2, 2, 1);
+        due("ready", x.ready(), 0);
+        for (int size = 0; size <= 24; size++) {
+            due("size " + size, x.thing(2, size, 0), size <= 6 ? 38 + 40 * size : FULL);
+        }
+        due("again", x.again(), 278);
+        due("its number", x.read(2), 0);
+        due("its size", x.found(1), 6);
+    }
+
+    /** Promise 10, "how many bytes.": of a ROW of 24 THINGS of twelve bytes each. */
+    private static void thingLong() {
+        ShapeHouse x = readyHouse(1, 0, 0, 2, 0, 0, 7, 1, 24, 7, 2, 24, 7, 3, 24, 7, 4, 24, 7, 5, 24, 0, 1, 0, 2, 6, 7, 4, 8, 0);
+        due("290", x.thing(9, 24, 0), 290);
+        due("OUT", told(x), "[" + "(!!!!!(..)a)".repeat(24) + "]");
+        due("again", x.again(), 290);
+        due("its number", x.read(9), 0);
     }
 
     // ---- reading

@@ -150,6 +150,17 @@ public final class GrammarEdgesTest extends Kit {
         due("found ready", x.state(4), 0);
     }
 
+    /** Terms 2, "FAULTS of it": a SHAPE that was taken back has none any more. */
+    private static void faultTakenBack() {
+        int[][] faulty = {{4, 9, 0}, {2, 0, 9}, {4, 0, 0}, {5, 0, 0}, {6, 0, 0}, {7, 1, 24}, {3, 0, 1}};
+        for (int[] s : faulty) {
+            ShapeHouse x = house(1, 0, 0, s[0], s[1], s[2]);
+            due("a FAULT", x.ready() % 16, 1);
+            due("undo", x.undo(), 1);
+            due("none", x.ready(), 0);
+        }
+    }
+
     /** Terms 2, "2 a ROW, SET or APART of a SHAPE that can be of SIZE 0.": no other KIND has this FAULT. */
     private static void partOfSizeZero() {
         for (int kind = 2; kind <= 7; kind++) {

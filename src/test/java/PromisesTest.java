@@ -1,4 +1,4 @@
-/** For each promise of the document: ordinary calls, the edges it names, and wrong inputs. */
+/** For each promise of the document: ordinary calls and wrong inputs; the edges have tests of their own. */
 public final class PromisesTest extends Kit {
     public static void main(String[] args) {
         runAll(PromisesTest.class);
@@ -16,12 +16,6 @@ public final class PromisesTest extends Kit {
         due("count of a new house", x.count(0, 0), BAD);
         due("read of a new house", x.read(0), BAD);
         due("again of a new house", x.again(), 0);
-        due("BAD", ShapeHouse.BAD, BAD);
-        due("NO", ShapeHouse.NO, NO);
-        due("FULL", ShapeHouse.FULL, FULL);
-        due("MANY", ShapeHouse.MANY, MANY);
-        due("NONE", ShapeHouse.NONE, NONE);
-        due("LIMIT", ShapeHouse.LIMIT, LIMIT);
     }
 
     private static final int[][] GOOD = {
@@ -373,42 +367,6 @@ public final class PromisesTest extends Kit {
         }
         dueThing(x, 8, 0, 0, "1.");
         dueThing(x, 8, 1, 1, "212b");
-    }
-
-    private static void promise10Full() {
-        ShapeHouse x = readyHouse(1, 0, 0, 2, 0, 0, 2, 1, 1, 2, 2, 2, 2, 3, 3, 2, 4, 4, 2, 5, 5, 2, 6, 5, 2, 7, 2,
-            7, 8, 24, 7, 9, 24, 7, 10, 24);
-        due("299 bytes", x.thing(9, 0, 0), 299);
-        due("300 bytes", x.thing(10, 0, 0), 300);
-        due("the last", x.out(299), ')');
-        due("behind the last", x.out(300), NONE);
-        due("301 bytes", x.thing(11, 0, 0), FULL);
-        due("OUT stays", x.state(2), 300);
-        due("OUT stays", x.out(1), '!');
-        due("again", x.again(), 300);
-        due("read it", x.read(10), 0);
-        due("its size", x.found(1), 0);
-        due("its bytes", x.found(2), 300);
-        due("of another shape", x.again(), 300);
-        due("too short", x.read(11), -102);
-    }
-
-    private static void promise10Deep() {
-        // pairs within the first of pairs, thirteen for each atom: 312 of SIZE 24
-        ShapeHouse x = house(1, 0, 0, 0, 1, 0);
-        for (int i = 2; i < 14; i++) {
-            x.shape(2, i + 1, 0);
-        }
-        x.shape(3, 0, 15);
-        x.shape(2, 2, 1);
-        due("ready", x.ready(), 0);
-        due("one", x.count(2, 24), 1);
-        due("far too deep", x.thing(2, 24, 0), FULL);
-        due("of size 0", x.thing(2, 0, 0), 2 + 12 * 3);
-        due("of size 1", x.thing(2, 1, 0), 12 * 3 + 1 + (1 + 38 + 1 + 1));
-        due("again", x.again(), x.state(2));
-        due("read", x.read(2), 0);
-        due("size", x.found(1), 1);
     }
 
     private static void promise11() {

@@ -1,3 +1,7 @@
+import java.math.BigInteger;
+import java.util.HashSet;
+import java.util.Set;
+
 /** The edges that the terms name ahead of 1 and in 1: answers, SHAPES, THINGS, THE ORDER and THE NUMBER. */
 public final class ShapesEdgesTest extends Kit {
     public static void main(String[] args) {
@@ -112,6 +116,74 @@ public final class ShapesEdgesTest extends Kit {
             7, 10, 15 * 33, 7, 11, 15 * 33, 3, 13, 13, 3, 12, 8);
     }
 
+    /** A number, or MANY. */
+    private static long orMany(BigInteger n) {
+        return n.compareTo(BigInteger.valueOf(LIMIT)) >= 0 ? MANY : n.longValueExact();
+    }
+
+    private static BigInteger choose(BigInteger top, int k) {
+        BigInteger ways = BigInteger.ONE;
+        for (int i = 0; i < k; i++) {
+            ways = ways.multiply(top.subtract(BigInteger.valueOf(i))).divide(BigInteger.valueOf(i + 1));
+        }
+        return ways;
+    }
+
+    /** SHAPES 4 to 8 have 10, 10^2, 10^4, 10^8, 10^16 THINGS of SIZE 0; 9 is an ATOM; 10 pairs it with one of those. */
+    private static ShapeHouse tens(int some) {
+        return readyHouse(1, 0, 0, 3, 0, 0, 3, 1, 1, 3, 2, 2, 3, 3, 1, 2, 4, 4, 2, 5, 5, 2, 6, 6, 2, 7, 7, 0, 1, 0, 2, some, 9,
+            5, 10, 0, 6, 10, 0);
+    }
+
+    /** Terms, "MANY: not below LIMIT, 10^16.": of SETS and APARTS of few THINGS and of MANY. */
+    private static void manySets() {
+        BigInteger things = BigInteger.TEN;
+        for (int some = 4; some <= 8; some++) {
+            ShapeHouse x = tens(some);
+            due("THINGS", x.count(10, 1), orMany(things));
+            for (int size = 0; size <= 24; size++) {
+                due("SETS " + some + " of " + size, x.count(11, size), orMany(choose(things.add(BigInteger.valueOf(size - 1)), size)));
+                due("APARTS " + some + " of " + size, x.count(12, size), orMany(choose(things, size)));
+            }
+            things = things.multiply(things);
+        }
+    }
+
+    /** Terms, "MANY: not below LIMIT, 10^16.": of SETS and APARTS, LIMIT - 1 and LIMIT. */
+    private static void manySetsFromLimitOn() {
+        for (int kind = 5; kind <= 6; kind++) {
+            ShapeHouse x = limits();
+            x.put(15, kind, 12, 0);
+            due("ready", x.ready(), 0);
+            due("LIMIT - 1", x.count(15, 15), LIMIT - 1);
+            due("the last", x.thing(15, 15, LIMIT - 2) > 0 ? 1 : 0, 1);
+            due("no more of them", x.thing(15, 15, LIMIT - 1), NONE);
+            x.put(15, kind, 13, 0);
+            due("ready", x.ready(), 0);
+            due("LIMIT", x.count(15, 15), MANY);
+            due("the last", x.thing(15, 15, LIMIT - 1) > 0 ? 1 : 0, 1);
+            due("again", x.again(), x.state(2));
+            due("its number", x.read(15), LIMIT - 1);
+        }
+    }
+
+    /** Terms 1, "SETS and APARTS (told in falling order)": the first and last NUMBERS that are told, where there are MANY. */
+    private static void numbersOfManySets() {
+        for (int some = 6; some <= 8; some++) {
+            for (int size = 1; size <= 6; size++) {
+                ShapeHouse x = tens(some);
+                for (int shape = 11; shape <= 12; shape++) {
+                    for (long number : new long[] {0, 1, LIMIT / 2, LIMIT - 2, LIMIT - 1}) {
+                        if (x.count(shape, size) == MANY && x.thing(shape, size, number) != FULL) {
+                            due("again", x.again(), x.state(2));
+                            due("number of " + size + " of " + some, x.read(shape), number);
+                        }
+                    }
+                }
+            }
+        }
+    }
+
     /** Terms, "NONE: there is none." and the five answers that are no number of something. */
     private static void constants() {
         due("BAD", ShapeHouse.BAD, BAD);
@@ -137,6 +209,30 @@ public final class ShapesEdgesTest extends Kit {
         due("the 16th anew", x.shape(0, 9, 25), 15);
         due("it is the new one", x.about(15, 1), 9);
         due("the 17th", x.shape(0, 1, 0), FULL);
+    }
+
+    /** Terms 1, "SHAPES, 16 at most, numbered from 0 as they come": each KIND works with each number. */
+    private static void eachKindAtEachNumber() {
+        int[] kinds = {0, 1, 2, 3, 4, 5, 6, 7, 8};
+        String[] first = {"b", ".", "(aa)", "1a", "[a]", "{a}", "<a>", "!a", "=ab"};
+        int[] sizes = {1, 0, 2, 1, 1, 1, 1, 1, 2};
+        for (int number = 0; number < 16; number++) {
+            int part = (number + 7) % 16;
+            for (int kind : kinds) {
+                ShapeHouse x = new ShapeHouse();
+                for (int i = 0; i < 16; i++) {
+                    boolean other = i != number;
+                    boolean two = kind == 2 || kind == 3;
+                    int a = kind == 0 ? 1 : kind == 1 ? 0 : kind == 8 ? 2 : part;
+                    int b = kind == 0 ? 1 : two ? part : kind == 7 ? 24 : 0;
+                    x.shape(other ? 0 : kind, other ? 1 : a, other ? 0 : b);
+                }
+                due("ready", x.ready(), 0);
+                dueThing(x, number, sizes[kind], 0, first[kind]);
+                due("an ATOM beside it", x.count(part, 1), 1);
+                due("of its SIZE", x.count(number, sizes[kind]), kind == 3 || kind == 8 ? 2 : 1);
+            }
+        }
     }
 
     /** Terms 1, "have a KIND and numbers a, b": KINDS 0 to 8, neither -1 nor 9. */
@@ -234,7 +330,7 @@ public final class ShapesEdgesTest extends Kit {
 
     /** Terms 1, "whose SIZE is low .. high (0 .. 24, low not above high), b being 32 * low + high" */
     private static void cutNumbers() {
-        java.util.Set<Integer> spans = new java.util.HashSet<>();
+        Set<Integer> spans = new HashSet<>();
         for (int low = 0; low <= 24; low++) {
             for (int high = low; high <= 24; high++) {
                 spans.add(32 * low + high);
@@ -275,6 +371,18 @@ public final class ShapesEdgesTest extends Kit {
             dueFault(x, 0, String.valueOf((char) ('a' + sign - 1)), 1, 0);
             dueFault(x, 0, String.valueOf((char) ('a' + sign + 1)), 1, 0);
         }
+    }
+
+    /** Terms 1, "any number of its THINGS": one alone, of the greatest SIZE. */
+    private static void oneOfSize24() {
+        String row = "[" + "a".repeat(24) + "]";
+        ShapeHouse x = readyHouse(0, 1, 0, 4, 0, 0, 7, 1, 24 * 33, 4, 2, 0, 5, 2, 0, 6, 2, 0);
+        dueCounts(x, 3, 0, 1, 24, 1);
+        dueCounts(x, 4, 0, 1, 24, 1);
+        dueCounts(x, 5, 0, 1, 24, 1);
+        dueThings(x, 3, 24, "[!" + row + "]");
+        dueThings(x, 4, 24, "{!" + row + "}");
+        dueThings(x, 5, 24, "<!" + row + ">");
     }
 
     /** Terms 1, "its one THING, of SIZE 0, is written ." */

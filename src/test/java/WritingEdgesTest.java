@@ -1,3 +1,6 @@
+import java.util.ArrayList;
+import java.util.List;
+
 /** The edges that the terms name in 3: SIZES, THE TAPE, OUT, WRITINGS and their FAULTS. */
 public final class WritingEdgesTest extends Kit {
     public static void main(String[] args) {
@@ -84,18 +87,42 @@ public final class WritingEdgesTest extends Kit {
 
     // ---- WRITINGS
 
+    private static final String[] FOUR = {"11a", "12b", "21c", "22d"};
+
+    /** All orders of 0 to 3. */
+    private static List<int[]> orders() {
+        List<int[]> orders = new ArrayList<>();
+        for (int bits = 0; bits < 256; bits++) {
+            int[] order = {bits & 3, bits >> 2 & 3, bits >> 4 & 3, bits >> 6};
+            if ((1 << order[0] | 1 << order[1] | 1 << order[2] | 1 << order[3]) == 15) {
+                orders.add(order);
+            }
+        }
+        due("orders", orders.size(), 24);
+        return orders;
+    }
+
     /** Terms 3, "the THINGS of SETS and APARTS in any order": all orders of four THINGS of unlike SIZES. */
     private static void anyOrder() {
-        String[] four = {"11a", "12b", "21c", "22d"};
-        for (int order = 0; order < 256; order++) {
-            int p = order & 3, q = order >> 2 & 3, r = order >> 4 & 3, s = order >> 6;
-            if ((1 << p | 1 << q | 1 << r | 1 << s) == 15) {
-                ShapeHouse x = readyHouse(0, 1, 0, 0, 2, 1, 0, 3, 2, 0, 4, 3, 3, 0, 1, 3, 2, 3, 3, 4, 5, 5, 6, 0, 6, 6, 0, 4, 6, 0);
-                String text = four[p] + four[q] + four[r] + four[s];
-                // ahead of 4 + 3 + 2 + 1: 14 without a 4, 4 whose second is not above 2, and 4 + 3 + 1 + 1 + 1
-                dueRead(x, 7, "{" + text + "}", 19, 0, 10);
-                dueRead(x, 8, "<" + text + ">", 0, 0, 10);
-            }
+        for (int[] o : orders()) {
+            ShapeHouse x = readyHouse(0, 1, 0, 0, 2, 1, 0, 3, 2, 0, 4, 3, 3, 0, 1, 3, 2, 3, 3, 4, 5, 5, 6, 0, 6, 6, 0);
+            String text = FOUR[o[0]] + FOUR[o[1]] + FOUR[o[2]] + FOUR[o[3]];
+            // ahead of 4 + 3 + 2 + 1: 14 without a 4, 4 whose second is not above 2, and 4 + 3 + 1 + 1 + 1
+            dueRead(x, 7, "{" + text + "}", 19, 0, 10);
+            dueRead(x, 8, "<" + text + ">", 0, 0, 10);
+        }
+    }
+
+    /** Terms 3, "the THINGS of SETS and APARTS in any order": all orders of four THINGS of one SIZE. */
+    private static void anyOrderOfOneSize() {
+        for (int[] o : orders()) {
+            ShapeHouse x = readyHouse(0, 1, 0, 0, 1, 1, 0, 1, 2, 0, 1, 3, 3, 0, 1, 3, 2, 3, 3, 4, 5, 5, 6, 0, 3, 6, 0, 6, 8, 0);
+            String p = FOUR[o[0]], q = FOUR[o[1]], r = FOUR[o[2]], s = FOUR[o[3]];
+            // ahead of dcba: 15 without a d, 4 whose second is not above b, and dcaa
+            dueRead(x, 7, "{" + p + q + r + s + "}", 20, 0, 4);
+            // of four out of five, the one without the fifth comes first, then those that lack d, c, b, a
+            dueRead(x, 9, "<1" + p + "1" + q + "1" + r + "1" + s + ">", 0, 0, 4);
+            dueRead(x, 9, "<1" + q + "2a1" + r + "1" + s + ">", 4 - o[0], 0, 4);
         }
     }
 
@@ -123,6 +150,15 @@ public final class WritingEdgesTest extends Kit {
         ShapeHouse x = readyHouse(8, 2, 0, 4, 0, 0);
         dueRead(x, 1, "[=ab=ba]", 1, 0, 4);
         dueRead(x, 1, "[=ba=ab]", 2, 0, 4);
+    }
+
+    /** Terms 3, "A WRITING of a THING of a SHAPE is as told": parts of SIZE 0 beside a ROW of one and a ROW of none. */
+    private static void partsOfSizeZero() {
+        ShapeHouse x = readyHouse(1, 0, 0, 3, 0, 0, 0, 1, 0, 4, 2, 0, 2, 0, 1, 2, 3, 4);
+        dueRead(x, 5, "([](.1.))", 0, 0, 0);
+        dueRead(x, 5, "([](.2.))", 1, 0, 0);
+        dueRead(x, 5, "([a](.1.))", 0, 0, 1);
+        dueRead(x, 5, "([a](.2.))", 1, 0, 1);
     }
 
     // ---- FAULT 1
