@@ -130,6 +130,15 @@ final class Model {
         return has(x) && 0 <= what && what <= 2 ? shapes.get(x)[what] : BAD;
     }
 
+    List<int[]> shapes() {
+        return shapes;
+    }
+
+    /** Takes over what another one with the same SHAPES has counted. */
+    void learn(Model other) {
+        memo.putAll(other.memo);
+    }
+
     private int kind(int x) {
         return shapes.get(x)[0];
     }

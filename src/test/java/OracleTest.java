@@ -38,6 +38,15 @@ public final class OracleTest {
         calls += t.calls;
     }
 
+    /** Twins on which a THING of 300 bytes can still be told and read, the same ones or new ones. */
+    private static Twins roomy(Twins t) {
+        if (t.calls <= 160) {
+            return t;
+        }
+        close(t);
+        return t.anew();
+    }
+
     private static int cut(Random r) {
         int low = r.nextInt(3) == 0 ? 0 : r.nextInt(8);
         return 32 * low + low + r.nextInt(25 - low);
@@ -108,7 +117,7 @@ public final class OracleTest {
 
     private static void readAll(Twins t, int x, String text) {
         long answer = t.readText(x, text);
-        long fault = t.house.found(0);
+        long fault = t.model.found(0);
         if (fault >= 0 && fault <= 4) {
             faults[(int) fault]++;
         }
@@ -169,6 +178,7 @@ public final class OracleTest {
         int n = makeGrammar(t, r);
         for (int x = 0; x < n; x++) {
             for (int size = 0; size <= 7; size++) {
+                t = roomy(t);
                 List<Model.Thing> all = t.model.all(x, size, 60);
                 if (all == null) {
                     break;
@@ -178,6 +188,7 @@ public final class OracleTest {
                     System.out.println("brute force counts " + all.size() + " of " + x + " of size " + size + " in " + t.model);
                 }
                 for (int i = 0; i < all.size(); i++) {
+                    t = roomy(t);
                     oneSmall(t, x, size, i, all.get(i), r);
                 }
             }
@@ -214,6 +225,7 @@ public final class OracleTest {
         for (int x = 0; x < n; x++) {
             for (int i = 0; i < 3; i++) {
                 int size = r.nextInt(25);
+                t = roomy(t);
                 long count = t.count(x, size);
                 t.upTo(x, size);
                 t.parts(x, r.nextInt(n), size);
@@ -223,13 +235,13 @@ public final class OracleTest {
                 long bound = count < 0 ? ShapeHouse.LIMIT : count;
                 long number = r.nextInt(4) == 0 ? bound - 1 : Math.floorMod(r.nextLong(), bound);
                 if (t.thing(x, size, number) > 0) {
-                    variants(t, x, t.outText(), r);
+                    t = variants(t, x, t.outText(), r);
                 }
                 if (count < 0) {
                     BigInteger beyond = t.model.exact(x, size).subtract(BigInteger.ONE).shiftRight(r.nextInt(4));
                     String text = t.model.written(x, size, beyond);
                     if (text.length() <= 300) {
-                        variants(t, x, text, r);
+                        t = variants(t, x, text, r);
                     }
                 }
             }
@@ -237,7 +249,8 @@ public final class OracleTest {
         close(t);
     }
 
-    private static void variants(Twins t, int x, String text, Random r) {
+    private static Twins variants(Twins told, int x, String text, Random r) {
+        Twins t = roomy(told);
         readAll(t, x, text);
         Model.Thing thing = parse(t, x, text);
         shuffle(t, thing, r);
@@ -247,6 +260,7 @@ public final class OracleTest {
         disturb(t, thing, r, false);
         readAll(t, x, t.model.text(thing));
         readAll(t, x, spoil(text, r));
+        return t;
     }
 
     /** APARTS within SETS within APARTS, with things that come twice. */
@@ -265,11 +279,12 @@ public final class OracleTest {
             for (int i = 0; i < 8; i++) {
                 int x = 5 + r.nextInt(4);
                 int size = 3 + r.nextInt(10);
+                t = roomy(t);
                 long count = t.count(x, size);
                 if (count != 0) {
                     long bound = count < 0 ? ShapeHouse.LIMIT : count;
                     if (t.thing(x, size, Math.floorMod(r.nextLong(), bound)) > 0) {
-                        variants(t, x, t.outText(), r);
+                        t = variants(t, x, t.outText(), r);
                     }
                 }
             }
@@ -287,8 +302,7 @@ public final class OracleTest {
         if (r.nextBoolean()) {
             makeGrammar(t, r);
         }
-        int from = t.calls;
-        while (t.calls - from < 400) {
+        while (t.calls < Twins.CALLS - 2) {
             anyCall(t, r);
         }
         close(t);

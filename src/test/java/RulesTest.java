@@ -12,11 +12,14 @@ import java.util.Set;
 import java.util.TreeSet;
 import java.util.regex.Matcher;
 import java.util.regex.Pattern;
+import java.util.stream.Collectors;
 
-/** Rules of LANGUAGE.md that can be seen from the class and its source. */
+/** The face of the document, and rules of LANGUAGE.md that can be seen from the class and its source. */
 public final class RulesTest {
-    private static final List<String> FACE = List.of("about", "again", "count", "feed", "found", "out", "parts", "put", "read",
-        "ready", "shape", "state", "thing", "trim", "undo", "upTo");
+    private static final List<String> FACE = List.of("shape(int, int, int)", "put(int, int, int, int)", "undo()",
+        "about(int, int)", "ready()", "count(int, int)", "upTo(int, int)", "parts(int, int, int)", "thing(int, int, long)",
+        "feed(int, int, int, int, int)", "trim(int)", "again()", "read(int)", "found(int)", "out(int)", "state(int)");
+    private static final Set<String> CONSTANTS = Set.of("BAD", "NO", "FULL", "MANY", "NONE", "LIMIT");
     private static final String FORBIDDEN =
         "\\b(throw|throws|try|catch|finally|synchronized|assert|import|package|protected|instanceof|Exact)\\b|->|::|\\w+Exact\\b";
     private static int wrong;
@@ -46,27 +49,43 @@ public final class RulesTest {
     private static void face() {
         Class<?> c = ShapeHouse.class;
         must(Modifier.isFinal(c.getModifiers()) && Modifier.isPublic(c.getModifiers()), "rule 1: public and final");
-        Set<String> names = new TreeSet<>();
+        must(c.getSuperclass() == Object.class && c.getInterfaces().length == 0, "rule 1: the class alone");
+        Set<String> methods = new TreeSet<>();
         for (Method m : c.getDeclaredMethods()) {
             if (!Modifier.isPrivate(m.getModifiers())) {
-                must(Modifier.isPublic(m.getModifiers()) && names.add(m.getName()), "rule 1: " + m);
-                must(m.getReturnType() == long.class, "face: long " + m.getName());
+                methods.add(signature(m));
+                must(m.getModifiers() == Modifier.PUBLIC && m.getReturnType() == long.class, "rule 1: public long " + signature(m));
+            } else {
+                must(!bearsNameOfFace(m), "rule 1: a private method with a name of the face: " + m);
             }
         }
-        must(names.equals(new TreeSet<>(FACE)), "rule 1: the methods of the face: " + names);
-        must(c.getDeclaredConstructors().length == 1, "rule 1: one constructor");
+        must(methods.equals(new TreeSet<>(FACE)), "rule 1: the methods of the face: " + methods);
+        Constructor<?>[] makers = c.getDeclaredConstructors();
+        must(makers.length == 1 && makers[0].getModifiers() == Modifier.PUBLIC && makers[0].getParameterCount() == 0, "rule 1: the constructor");
         for (Field f : c.getDeclaredFields()) {
-            boolean constant = List.of("BAD", "NO", "FULL", "MANY", "NONE", "LIMIT").contains(f.getName());
-            must(Modifier.isPublic(f.getModifiers()) == constant, "rule 1: " + f);
-            must(constant || Modifier.isPrivate(f.getModifiers()), "rule 1: " + f);
+            must(CONSTANTS.contains(f.getName()) ? isConstant(f) : Modifier.isPrivate(f.getModifiers()), "rule 1: " + f);
         }
+        must(c.getFields().length == CONSTANTS.size(), "rule 1: the constants of the face");
         members(c);
+    }
+
+    private static String signature(Method m) {
+        String types = Arrays.stream(m.getParameterTypes()).map(Class::getName).collect(Collectors.joining(", "));
+        return m.getName() + "(" + types + ")";
+    }
+
+    private static boolean bearsNameOfFace(Method m) {
+        return FACE.stream().anyMatch(s -> s.startsWith(m.getName() + "("));
+    }
+
+    private static boolean isConstant(Field f) {
+        return f.getType() == long.class && f.getModifiers() == (Modifier.PUBLIC | Modifier.STATIC | Modifier.FINAL);
     }
 
     private static void inside(Class<?> c) {
         must(Modifier.isStatic(c.getModifiers()) && Modifier.isPrivate(c.getModifiers()), "rule 1: " + c);
         for (Method m : c.getDeclaredMethods()) {
-            must(!FACE.contains(m.getName()), "rule 1: a name of the face in " + c);
+            must(!bearsNameOfFace(m), "rule 1: a name of the face in " + c);
         }
         members(c);
     }
@@ -152,8 +171,8 @@ public final class RulesTest {
         x.shape(5, 2, 0);
         x.shape(2, 0, 1);
         x.shape(6, 2, 0);
-        for (int i = 0; i < 40; i++) {
-            x.put(0, 0, 1, i % 26);
+        for (int i = 0; i < 25; i++) {
+            x.put(0, 0, 1, i);
             x.ready();
             x.count(2, 24);
             x.thing(3, 20, 1000L * i);

@@ -3,7 +3,9 @@ import java.util.List;
 
 /** Makes every call on a ShapeHouse and on the Model, and tells where they differ. */
 final class Twins {
-    final ShapeHouse house = new ShapeHouse();
+    /** What is promised ends with an object's 512th call. */
+    static final int CALLS = 512;
+    private final ShapeHouse house = new ShapeHouse();
     final Model model = new Model();
     private final List<String> log = new ArrayList<>();
     int wrong;
@@ -11,6 +13,10 @@ final class Twins {
 
     private long same(String call, long got, long want) {
         calls++;
+        if (calls > CALLS) {
+            wrong++;
+            System.out.println("the test makes more than " + CALLS + " calls on one object of " + model);
+        }
         log.add(call + " -> " + got);
         if (got != want) {
             wrong++;
@@ -114,9 +120,21 @@ final class Twins {
 
     String outText() {
         StringBuilder s = new StringBuilder();
-        for (int i = 0; i < house.state(2); i++) {
+        long length = state(2);
+        for (int i = 0; i < length; i++) {
             s.append((char) out(i));
         }
         return s.toString();
+    }
+
+    /** New ones with the same SHAPES, found READY. */
+    Twins anew() {
+        Twins t = new Twins();
+        for (int[] s : model.shapes()) {
+            t.shape(s[0], s[1], s[2]);
+        }
+        t.ready();
+        t.model.learn(model);
+        return t;
     }
 }
